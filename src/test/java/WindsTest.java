@@ -86,6 +86,7 @@ public final class WindsTest {
         Check.due("74 is below 75", windy(75).blown(3, true, 0), 0);
         Check.due("65,536 goes on to itself", windy(36).yeses(3, true, 65536, 60), 60);
         Check.due("36 is below 37", windy(37).yeses(3, true, 65536, 60), 0);
+        Check.due("the last seed", windy(37).blown(3, true, 65536), 0);
         Check.due("always the other one", windy(100).yeses(3, true, 7, 60), 0);
         x.hire(1);
         Check.due("a hermit's no, turned by 24", x.blown(0, true, 0), 1);
