@@ -10,6 +10,7 @@ public final class TapeEdgesTest {
         readsTheFirstBytes();
         emptiesTheTape();
         beginsAnew();
+        beginsAnewOften();
         refusesNumbers();
         refusesFaults();
         tellsTheFault();
@@ -158,7 +159,7 @@ public final class TapeEdgesTest {
         Check.due("the same text again: sound as told", y.folly(0, 1), 5);
         Check.due("the same text again: no hermit", y.folly(0, 2), 0);
         FollyShire told = Check.made("shire wind 0 rot 0;folly f tower sound 1;folly g tower sound 1;sends f g;hermit f;"
-            + "veiled f;signed f yes no;estate e g debt 1");
+            + "veiled f;signed f yes no;estate e g debt 1;estate d f debt 1");
         Check.read(told, "shire wind 0 rot 0;folly f tower sound 1;folly g tower sound 1");
         int[] due = {0, 0, 2, 0, 0, 0, 0, 0, 0, 0, 0, 0};
         for (int what = 0; what < due.length; what++) {
@@ -166,6 +167,22 @@ public final class TapeEdgesTest {
         }
         Check.due("f signs for none", told.folly(0, 4), 0);
         Check.due("g signs for none", told.folly(1, 4), 0);
+        Check.due("nothing veiled, nothing signed: one fits", told.fits(), 1);
+    }
+
+    private static void beginsAnewOften() {
+        Check.promise(3, "The first n bytes of THE TAPE (it is empty then) are the SHIRE from now on");
+        String full = "shire wind 7 rot 1;folly f tower sound 9;folly g arch sound 8;folly h tower sound 7;sends f g;sends h g;"
+            + "hermit h;veiled f;veiled h;signed f yes no;signed h no yes;estate e f debt 5;estate d g debt 6";
+        FollyShire x = Check.made(full);
+        String first = Check.state(x);
+        int fits = x.fits();
+        for (String between : new String[] {"", full, full + ";?", full + ";folly f", "shire wind 1 rot 1;folly d arch sound 3;veiled d"}) {
+            Check.read(x, between);
+            Check.taken(x, "the same text again", Check.read(x, full), 3);
+            Check.same("the same text again", Check.state(x), first);
+            Check.due("as many fit", x.fits(), fits);
+        }
     }
 
     private static void refusesNumbers() {

@@ -71,6 +71,18 @@ public final class TextEdgesTest {
         good(OPEN + "folly zzzzzzzy tower sound 1;folly zzzzzzzz tower sound 1;folly yzzzzzzz tower sound 1", 3);
         good(OPEN + "folly a tower sound 1;folly aa tower sound 1;folly aaaaaaaa tower sound 1;folly ba tower sound 1", 4);
         bad(OPEN + "folly abcdefgh tower sound 1;folly ^abcdefgh", 3);
+        for (int at = 0; at < 8; at++) {
+            String other = "abcdefgh".substring(0, at) + "z" + "abcdefgh".substring(at + 1);
+            good(OPEN + "folly abcdefgh tower sound 1;folly " + other + " tower sound 1;estate " + "abcdefgh".substring(at, at + 1)
+                + " " + other + " debt 1", 2);
+            bad(OPEN + "folly abcdefgh tower sound 1;hermit ^" + other, 2);
+        }
+        // Letters by their places, each worth ten, sixteen, twenty-six or so of the next: never one for another.
+        String[][] unlike = {{"aq", "ba"}, {"ak", "ba"}, {"az", "b"}, {"z", "az"}, {"aaz", "aba"}, {"ab", "ba"}, {"a", "aa"}};
+        for (String[] two : unlike) {
+            good(OPEN + "folly " + two[0] + " tower sound 1;folly " + two[1] + " tower sound 1", 2);
+            bad(OPEN + "folly " + two[0] + " tower sound 1;hermit ^" + two[1], 2);
+        }
         bad(ONE + ";^obelisks", 1);
         bad(ONE + ";^foll f", 1);
         bad(ONE + ";^follyf", 1);
@@ -310,6 +322,19 @@ public final class TextEdgesTest {
             }
             if (isWord && tokens[at].length() > 1) {
                 bad(ahead + "^zebra", 1);
+            }
+        }
+        String whole = "shire wind 0 rot 0;folly f tower sound 1;folly g arch sound 2;folly h obelisk sound 3;"
+            + "folly i pyramid sound 4;folly j grotto sound 5;sends f g;hermit f;estate e f debt 3;veiled g;signed f yes lost;"
+            + "signed f no yes";
+        good(whole, 5);
+        for (int at = 0; at < whole.length(); at++) {
+            boolean inWord = Character.isLetter(whole.charAt(at));
+            int begin = Math.max(whole.lastIndexOf(' ', at), whole.lastIndexOf(';', at)) + 1;
+            boolean ofMany = at + 1 < whole.length() && Character.isLetter(whole.charAt(at + 1)) || at > begin;
+            if (inWord && ofMany) {
+                String spoiled = whole.substring(0, at) + "q" + whole.substring(at + 1);
+                bad(spoiled, 1, "a letter of a WORD is q: " + spoiled, begin);
             }
         }
         bad(ONE + ";signed f yes lost ^lost", 1);

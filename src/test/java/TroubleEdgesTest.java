@@ -9,6 +9,7 @@ public final class TroubleEdgesTest {
         size();
         trouble();
         numbersOfTrouble();
+        constants();
         calls();
         Check.end(53, 55);
     }
@@ -122,15 +123,12 @@ public final class TroubleEdgesTest {
             x.feed(0, 0, 0, 0, 0);
         }
         Check.due("a feed too many leaves it, too", x.trouble(), 6);
-        Check.term("0 it wasn't");
+        Check.term("0 it wasn't; 1 there is none such; 2 a number; 3 no room; 4 a FAULT; 5 not so; 6 there is none.");
         for (int number : numbers) {
             refuse(x, number);
             Check.due("refused by " + number + " again", x.trouble(), number);
             x.answers(2, true);
             Check.due("0 behind an answer of -2", x.trouble(), 0);
-        }
-        Check.term("3 no room; 4 a FAULT; 5 not so; 6 there is none.");
-        for (int number : numbers) {
             refuse(x, number);
             x.hire(0);
             Check.due("0 behind an act", x.trouble(), 0);
@@ -142,6 +140,17 @@ public final class TroubleEdgesTest {
             x.back(0);
             Check.due("0 behind going back", x.trouble(), 0);
         }
+    }
+
+    private static void constants() {
+        Check.term("The constants: `NONE = -1`: There is none; refused.");
+        Check.due("NONE", FollyShire.NONE, -1);
+        FollyShire x = Check.made(SHIRE);
+        Check.refused(x, "a refused call", x.answers(3, true), FollyShire.NONE, 1);
+        Check.term("ANSWERS: 1 yes, 0 no, -2 nothing (lost).");
+        Check.taken(x, "a hermit's", x.answers(0, true), 0);
+        Check.taken(x, "an arch's to no", x.answers(1, false), 1);
+        Check.taken(x, "a grotto's", x.answers(2, false), -2);
     }
 
     /** A call that is refused by this number. */

@@ -2,6 +2,7 @@
 public final class WindsEdgesTest {
     public static void main(String[] args) {
         chances();
+        shapes();
         odds();
         lostOdds();
         draws();
@@ -49,6 +50,34 @@ public final class WindsEdgesTest {
         due(row(1, 6), "the last of six alone", 5, true, 99, 100);
     }
 
+    /** What a lone folly of this shape answers to yes and to no, by chance and by draws. */
+    private static void shapes() {
+        Check.promise(42, "How likely a letter is SIGNED with yes (or no, not answer) with WINDS");
+        String[] lines = {"tower sound 1", "arch sound 1", "obelisk sound 1", "pyramid sound 1", "grotto sound 1;hermit a"};
+        int[] toYes = {1, 0, 1, 1, 0};
+        int[] toNo = {0, 1, 1, 0, 0};
+        for (int i = 0; i < lines.length; i++) {
+            FollyShire x = Check.made("shire wind 30 rot 0;folly a " + lines[i]);
+            for (int say = 0; say <= 1; say++) {
+                int answer = say == 1 ? toYes[i] : toNo[i];
+                String what = lines[i] + " to " + say;
+                Check.taken(x, what + ": yes", x.odds(0, say == 1, true, false), answer == 1 ? 7 : 3);
+                Check.taken(x, what + ": no", x.odds(0, say == 1, false, false), answer == 1 ? 3 : 7);
+                Check.taken(x, what + ": by", x.odds(0, say == 1, true, true), 10);
+                Check.taken(x, what + ": lost", x.lostOdds(0, say == 1, false), 0);
+                Check.taken(x, what + ": not turned by 74", x.blown(0, say == 1, 0), answer);
+                Check.taken(x, what + ": turned by 12", x.blown(0, say == 1, 873), 1 - answer);
+            }
+        }
+        FollyShire pair = Check.made("shire wind 30 rot 0;folly a arch sound 1;folly b arch sound 1;sends a b");
+        Check.taken(pair, "two arches to no: no", pair.odds(0, false, false, false), 29);
+        Check.taken(pair, "two arches to no: by", pair.odds(0, false, false, true), 50);
+        FollyShire odd = Check.made("shire wind 30 rot 0;folly a pyramid sound 1");
+        odd.year();
+        Check.taken(odd, "a pyramid in an odd year", odd.odds(0, true, true, false), 3);
+        Check.taken(odd, "a pyramid in an odd year, by 74", odd.blown(0, true, 0), 0);
+    }
+
     private static void odds() {
         Check.promise(42, "the upper WHOLE or the lower, likewise.");
         due(obelisk(50), "one half", 0, true, 1, 2);
@@ -58,6 +87,8 @@ public final class WindsEdgesTest {
         due(lost, "a ruin's yes is 0 by 1", 0, true, 0, 1);
         due(lost, "a ruin's no is 0 by 1", 0, false, 0, 1);
         due(lost, "sent to a ruin", 1, true, 0, 1);
+        Check.taken(lost, "put in with no", lost.odds(0, false, false, false), 0);
+        Check.taken(lost, "put in with no, by", lost.odds(0, false, false, true), 1);
         Check.promise(42, "-1: 1.");
         FollyShire x = row(30, 6);
         Check.within(x, "odds", 0, 5, 1, -1, f -> x.odds(f, true, true, false));
@@ -72,6 +103,8 @@ public final class WindsEdgesTest {
         for (int f = 0; f < 3; f++) {
             Check.taken(x, "the upper of " + f, x.lostOdds(f, true, false), due[f]);
             Check.taken(x, "the lower of " + f, x.lostOdds(f, true, true), 1);
+            Check.taken(x, "the upper of " + f + " with no", x.lostOdds(f, false, false), due[f]);
+            Check.taken(x, "the lower of " + f + " with no", x.lostOdds(f, false, true), 1);
         }
         FollyShire round = Check.made("shire wind 100 rot 0;folly a tower sound 1;folly b tower sound 1;sends b a;sends a b");
         Check.taken(round, "in a round", round.lostOdds(0, true, false), 1);

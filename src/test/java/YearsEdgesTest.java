@@ -7,6 +7,7 @@ public final class YearsEdgesTest {
         + "estate r d debt 0;estate s e debt 0;estate t f debt 0";
 
     public static void main(String[] args) {
+        behindYears();
         signsIn();
         servedIn();
         firstServed();
@@ -21,6 +22,21 @@ public final class YearsEdgesTest {
 
     private static FollyShire lone(int rot, String shape, int sound) {
         return Check.made("shire wind 0 rot " + rot + ";folly a " + shape + " sound " + sound + ";estate p a debt 0");
+    }
+
+    private static void behindYears() {
+        Check.term("In n YEARS: as behind n YEARS, nothing else being done.");
+        String text = SIX.replace("rot 1", "rot 2").replace("a tower", "a pyramid").replace("f tower sound 6", "f tower sound 99")
+            + ";sends a f;hermit e";
+        FollyShire ahead = Check.made(text);
+        FollyShire gone = Check.made(text);
+        for (int n = 0; n <= 60; n++) {
+            Check.due("a yes in " + n, ahead.signsIn(0, true, n), gone.signs(0, true));
+            Check.due("f no in " + n, ahead.signsIn(5, false, n), gone.signs(5, false));
+            Check.due("served in " + n, ahead.servedIn(n), gone.served());
+            gone.year();
+        }
+        Check.due("nothing was done", ahead.size(8) + ahead.size(9), 0);
     }
 
     private static void signsIn() {
@@ -190,6 +206,9 @@ public final class YearsEdgesTest {
         FollyShire all = Check.made(SIX);
         Check.taken(all, "all five behind a year", all.planServes(1), 5);
         Check.taken(all, "all five behind two, b mended", all.planServes(2), 5);
+        FollyShire sound = Check.made(SIX.replace("rot 1", "rot 0"));
+        Check.taken(sound, "all five, six follies being sound", sound.planServes(4), 5);
+        Check.taken(sound, "none is mended then", sound.plan(4), 0);
         FollyShire without = Check.made(LONE);
         Check.taken(without, "no estates", without.planServes(4), 0);
         FollyShire ruin = lone(9, "tower", 9);
@@ -199,7 +218,8 @@ public final class YearsEdgesTest {
     }
 
     private static void keep() {
-        Check.term("all estates are SERVED by some letter that are NOW: of like ones the least bits.");
+        Check.term("KEEP: the fewest follies by which, all others being RUINS, all estates are SERVED by some letter that are NOW: "
+            + "of like ones the least bits.");
         FollyShire x = Check.made(SIX);
         Check.taken(x, "all but the first", x.keep(), 62);
         x.year();
@@ -220,6 +240,9 @@ public final class YearsEdgesTest {
             + "estate q a debt 0");
         Check.taken(row, "b alone, as q isn't NOW", row.keep(), 2);
         Check.due("nothing is done", row.folly(0, 1), 1);
+        FollyShire ruin = Check.made("shire wind 0 rot 0;folly a tower sound 0;folly b tower sound 1;folly c tower sound 1;"
+            + "estate p c debt 0");
+        Check.taken(ruin, "neither a ruin nor b", ruin.keep(), 4);
         Check.promise(29, "NONE: 1 (no SHIRE).");
         Check.needsShire("keep", Check.NONE, FollyShire::keep);
     }
