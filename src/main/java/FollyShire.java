@@ -275,7 +275,7 @@ public final class FollyShire {
             return NONE;
         }
         trial.take(now);
-        trial.target[f] = to == f ? ABSENT : to;
+        trial.aim(f, to);
         return serving.countServed(trial);
     }
 
@@ -368,7 +368,7 @@ public final class FollyShire {
         if (i < 0 || i >= guesses.count || k < 0 || k >= told.veiled) {
             return refused(NONE_SUCH);
         }
-        return guesses.shapeOf(i, k);
+        return guesses.shapeBy(guesses.codes[i], k);
     }
 
     public int shapedBy(int k, int shape) {
@@ -735,6 +735,10 @@ public final class FollyShire {
             hermits = 0;
         }
 
+        boolean has(int f) {
+            return f >= 0 && f < count;
+        }
+
         void add(int itsShape, int itsSound) {
             if (count < MOST_FOLLIES) {
                 shape[count] = itsShape;
@@ -756,7 +760,7 @@ public final class FollyShire {
         }
 
         int reply(int f, int say) {
-            if (sound[f] == 0) {
+            if (f < 0 || f >= count || sound[f] == 0) {
                 return ABSENT;
             }
             if ((hermits >> f & 1) != 0) {
@@ -800,6 +804,13 @@ public final class FollyShire {
             }
         }
 
+        /** Its own number is nowhere. */
+        void aim(int f, int to) {
+            if (has(f)) {
+                target[f] = to == f ? ABSENT : to;
+            }
+        }
+
         int countSending() {
             int sending = 0;
             for (int f = 0; f < count; f++) {
@@ -811,12 +822,12 @@ public final class FollyShire {
         }
 
         boolean comesBack(int f) {
-            int at = target[f];
-            for (int step = 0; step < count && at != ABSENT; step++) {
+            int at = f;
+            for (int step = 0; step < count && has(at); step++) {
+                at = target[at];
                 if (at == f) {
                     return true;
                 }
-                at = target[at];
             }
             return false;
         }
@@ -838,7 +849,7 @@ public final class FollyShire {
             int seen = 0;
             int at = start;
             int say = yes ? YES : NO;
-            while (length < MOST_FOLLIES && (seen >> at & 1) == 0) {
+            while (length < MOST_FOLLIES && scene.has(at) && (seen >> at & 1) == 0) {
                 seen |= 1 << at;
                 path[length] = at;
                 length++;
@@ -900,7 +911,7 @@ public final class FollyShire {
         }
 
         void addEstate(int f, int itsDebt) {
-            if (estates < MOST_ESTATES) {
+            if (estates < MOST_ESTATES && scene.has(f)) {
                 estateFolly[estates] = f;
                 debt[estates] = itsDebt;
                 estatesOf[f] |= 1 << estates;
@@ -970,8 +981,8 @@ public final class FollyShire {
             if (kind != WORD || letters.length() != next - place) {
                 return false;
             }
-            for (int i = 0; i < letters.length(); i++) {
-                if (text[place + i] != letters.charAt(i)) {
+            for (int at = place; at < next; at++) {
+                if (text[at] != letters.charAt(at - place)) {
                     return false;
                 }
             }
@@ -1071,13 +1082,9 @@ public final class FollyShire {
             if (line == SHIRE_LINE) {
                 return readShire();
             }
-            if (hasNoRoom(line)) {
-                return fail(MANY);
-            }
             if (!opened) {
                 return fail(LACKS);
             }
-            tokens.advance();
             switch (line) {
                 case FOLLY_LINE:
                     return readFolly();
@@ -1117,21 +1124,6 @@ public final class FollyShire {
             return tokens.isWord("signed") ? SIGNED_LINE : NO_LINE;
         }
 
-        private boolean hasNoRoom(int line) {
-            switch (line) {
-                case FOLLY_LINE:
-                    return draft.scene.count >= MOST_FOLLIES;
-                case ESTATE_LINE:
-                    return draft.estates >= MOST_ESTATES;
-                case VEILED_LINE:
-                    return draft.veiled >= MOST_VEILED;
-                case SIGNED_LINE:
-                    return draft.signed >= MOST_SIGNED;
-                default:
-                    return false;
-            }
-        }
-
         private boolean readShire() {
             if (opened) {
                 return fail(AGAIN);
@@ -1150,6 +1142,11 @@ public final class FollyShire {
         }
 
         private boolean readFolly() {
+            int f = draft.scene.count;
+            if (f >= MOST_FOLLIES) {
+                return fail(MANY);
+            }
+            tokens.advance();
             if (!takeNewName() || !takeShape()) {
                 return false;
             }
@@ -1157,12 +1154,13 @@ public final class FollyShire {
             if (!passWord("sound") || !takeWhole(99)) {
                 return false;
             }
-            follyNames[draft.scene.count] = name;
+            follyNames[f] = name;
             draft.scene.add(shape, taken);
             return true;
         }
 
         private boolean readSends() {
+            tokens.advance();
             if (!takeFolly(senders)) {
                 return false;
             }
@@ -1171,11 +1169,12 @@ public final class FollyShire {
                 return false;
             }
             senders |= 1 << first;
-            draft.scene.target[first] = taken;
+            draft.scene.aim(first, taken);
             return true;
         }
 
         private boolean readHermit() {
+            tokens.advance();
             if (!takeFolly(draft.scene.hermits)) {
                 return false;
             }
@@ -1184,6 +1183,11 @@ public final class FollyShire {
         }
 
         private boolean readEstate() {
+            int e = draft.estates;
+            if (e >= MOST_ESTATES) {
+                return fail(MANY);
+            }
+            tokens.advance();
             if (!takeNewName() || !takeFolly(0)) {
                 return false;
             }
@@ -1191,12 +1195,16 @@ public final class FollyShire {
             if (!passWord("debt") || !takeWhole(99)) {
                 return false;
             }
-            estateNames[draft.estates] = name;
+            estateNames[e] = name;
             draft.addEstate(f, taken);
             return true;
         }
 
         private boolean readVeiled() {
+            if (draft.veiled >= MOST_VEILED) {
+                return fail(MANY);
+            }
+            tokens.advance();
             if (!takeFolly(veils)) {
                 return false;
             }
@@ -1206,6 +1214,10 @@ public final class FollyShire {
         }
 
         private boolean readSigned() {
+            if (draft.signed >= MOST_SIGNED) {
+                return fail(MANY);
+            }
+            tokens.advance();
             if (!takeFolly(0)) {
                 return false;
             }
@@ -1402,7 +1414,7 @@ public final class FollyShire {
             for (int f = 0; f < scene.count; f++) {
                 // Nowhere goes ahead of all follies, so it stands at -1.
                 for (int to = -1; to < scene.count; to++) {
-                    trial.target[f] = to < 0 || to == f ? ABSENT : to;
+                    trial.aim(f, to < 0 ? f : to);
                     int count = countServed(trial);
                     if (count > most) {
                         most = count;
@@ -1452,7 +1464,7 @@ public final class FollyShire {
 
         private int bitsServedBy(Scene scene, int each) {
             way.run(scene, each >> 1, (each & 1) != 0);
-            return way.outcome == YES ? told.estatesOf[way.last] : 0;
+            return way.outcome == YES && scene.has(way.last) ? told.estatesOf[way.last] : 0;
         }
     }
 
@@ -1523,9 +1535,12 @@ public final class FollyShire {
         }
 
         private int countBehind(int sound) {
+            if (sound < 0 || sound >= FOLLY_SETS) {
+                return 0;
+            }
             if (servedBySound[sound] == NONE) {
                 trial.standBy(sound);
-                servedBySound[sound] = serving.countServed(trial);
+                servedBySound[sound] = Integer.bitCount(serving.bitsServed(trial));
             }
             return servedBySound[sound];
         }
@@ -1557,8 +1572,7 @@ public final class FollyShire {
         private final Course way = new Course();
         private final Scene trial = new Scene();
         /** Each fit's shapes as digits to the base of SHAPES, the first veiled one's highest. */
-        private final int[] codes = new int[MOST_FITS];
-        private final int[] ways = new int[3];
+        final int[] codes = new int[MOST_FITS];
         int count;
         int letter;
         int leaves;
@@ -1583,18 +1597,18 @@ public final class FollyShire {
             }
         }
 
-        int shapeOf(int fit, int k) {
-            int code = codes[fit];
+        int shapeBy(int code, int k) {
+            int rest = code;
             for (int later = k + 1; later < told.veiled; later++) {
-                code /= SHAPES;
+                rest /= SHAPES;
             }
-            return code % SHAPES;
+            return rest % SHAPES;
         }
 
         int countShaped(int k, int shape) {
             int shaped = 0;
             for (int fit = 0; fit < count; fit++) {
-                if (shapeOf(fit, k) == shape) {
+                if (shapeBy(codes[fit], k) == shape) {
                     shaped++;
                 }
             }
@@ -1633,21 +1647,27 @@ public final class FollyShire {
         }
 
         private int mostLeftBy(int each) {
-            ways[0] = 0;
-            ways[1] = 0;
-            ways[2] = 0;
+            int yes = 0;
+            int no = 0;
             for (int fit = 0; fit < count; fit++) {
                 wear(codes[fit]);
                 way.run(trial, each >> 1, (each & 1) != 0);
-                ways[way.outcome == ABSENT ? 2 : way.outcome]++;
+                if (way.outcome == YES) {
+                    yes++;
+                } else if (way.outcome == NO) {
+                    no++;
+                }
             }
-            return Math.max(ways[0], Math.max(ways[1], ways[2]));
+            return Math.max(count - yes - no, Math.max(yes, no));
         }
 
         private void wear(int code) {
             int rest = code;
             for (int k = told.veiled - 1; k >= 0; k--) {
-                trial.shape[told.veiledFolly[k]] = rest % SHAPES;
+                int f = told.veiledFolly[k];
+                if (trial.has(f)) {
+                    trial.shape[f] = rest % SHAPES;
+                }
                 rest /= SHAPES;
             }
         }
@@ -1780,9 +1800,9 @@ public final class FollyShire {
         }
 
         void push(Scene scene) {
-            if (kept == room) {
+            if (kept >= room) {
                 System.arraycopy(cells, WIDTH, cells, 0, (room - 1) * WIDTH);
-                kept--;
+                kept = room - 1;
             }
             int at = kept * WIDTH;
             cells[at] = scene.year;
